@@ -406,6 +406,10 @@ public final class Branchmatch {
         Term other = slots[1];
         boolean canBySteps = bySteps.makeAlike(one, other);
         boolean canByClasses = byClasses.makeAlike(one, other);
+        if (canBySteps && canByClasses) {
+            bySteps.tellInto(spareAnswer);
+            byClasses.tellInto(otherAnswer);
+        }
         return canBySteps == canByClasses
                 && (!canBySteps || areAnswersSound(one, other))
                 && isCommonSound(one, other)
@@ -505,10 +509,8 @@ public final class Branchmatch {
         return sum;
     }
 
-    /** Both ways have just made these two alike. */
+    /** The answer by steps is in the one spare, that by classes in the other one. */
     private boolean areAnswersSound(Term one, Term other) {
-        bySteps.tellInto(spareAnswer);
-        byClasses.tellInto(otherAnswer);
         if (spareAnswer.isTooLong() && otherAnswer.isTooLong()) {
             return true;
         }
@@ -896,7 +898,10 @@ public final class Branchmatch {
             for (int i = 0; i < one.length() && fits; i++) {
                 int letter = one.letterAt(i);
                 if (isName(letter)) {
-                    fits = isToldOrTells(told[letter], onto, place);
+                    if (told[letter].length() == 0) {
+                        told[letter].addRow(onto, place, onto.endOf(place));
+                    }
+                    fits = told[letter].isLikeAt(0, onto, place);
                     place = onto.endOf(place);
                 } else {
                     fits = letter == onto.letterAt(place);
@@ -905,14 +910,6 @@ public final class Branchmatch {
             }
             tellUntoldOfThemselves();
             return fits;
-        }
-
-        private static boolean isToldOrTells(Term told, Term onto, int place) {
-            if (told.length() == 0) {
-                told.addRow(onto, place, onto.endOf(place));
-                return true;
-            }
-            return told.isLikeAt(0, onto, place);
         }
 
         private void tellUntoldOfThemselves() {
@@ -932,25 +929,18 @@ public final class Branchmatch {
             // Each round gets at least the names ready that stand only for what is ready.
             for (int round = 0; round < NAMES; round++) {
                 for (int n = 0; n < NAMES && n < standsFor.length; n++) {
-                    if ((ready >> n & 1) == 0 && isWhole(n, both, standsFor[n], ready)) {
+                    int place = standsFor[n];
+                    int end = both.endOf(place);
+                    if (place == NONE) {
+                        told[n].becomeName(n);
+                        ready |= 1 << n;
+                    } else if ((ready >> n & 1) == 0 && (both.namesIn(place, end) & ~ready) == 0) {
+                        told[n].empty();
+                        addUsed(both, place, end, told[n]);
                         ready |= 1 << n;
                     }
                 }
             }
-        }
-
-        private boolean isWhole(int name, Term both, int place, int ready) {
-            if (place == NONE) {
-                told[name].becomeName(name);
-                return true;
-            }
-            int end = both.endOf(place);
-            if ((both.namesIn(place, end) & ~ready) != 0) {
-                return false;
-            }
-            told[name].empty();
-            addUsed(both, place, end, told[name]);
-            return true;
         }
     }
 
@@ -1133,7 +1123,7 @@ public final class Branchmatch {
                 int left = classAt(pairs.oneAt(next));
                 int right = classAt(pairs.otherAt(next));
                 pairs.dropNext();
-                canBe = left == right || isJoined(left, right);
+                canBe = left == right || join(left, right);
             }
             return canBe && isNoneInItself();
         }
@@ -1154,7 +1144,8 @@ public final class Branchmatch {
             return group >= 0 && group < PLACES ? headOf[group] : NONE;
         }
 
-        private boolean isJoined(int left, int right) {
+        /** Whether no two unlike heads come together. */
+        private boolean join(int left, int right) {
             int one = headAt(left);
             int other = headAt(right);
             if (one != NONE && other != NONE) {

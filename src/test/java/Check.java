@@ -1,7 +1,8 @@
 import java.util.Objects;
 
-/** Counts and prints what is not as it is due; the tests' lambdas stand here, never in the class. */
+/** Counts and prints what is not as it is due; and sets up objects. */
 final class Check {
+    /** The very exception is due: what the machine throws is of a class below it. */
     static final Class<?> SLOT = IndexOutOfBoundsException.class;
     static final Class<?> WORD = IllegalArgumentException.class;
 
@@ -22,17 +23,6 @@ final class Check {
         due(what, true, got);
     }
 
-    /** The very exception: what the machine throws is a class below it. */
-    void fails(String what, Class<?> want, Runnable call) {
-        Class<?> got = null;
-        try {
-            call.run();
-        } catch (RuntimeException e) {
-            got = e.getClass();
-        }
-        due(what, want, got);
-    }
-
     void end(String tests) {
         System.out.println(tests + ": " + made + " checks, " + wrong + " wrong");
         if (wrong != 0 || made == 0) {
@@ -40,17 +30,20 @@ final class Check {
         }
     }
 
-    /** Puts the term with this text into a slot, place by place; the slot 5 is overwritten. */
-    static void set(Branchmatch x, int slot, String text) {
+    /** Puts the term with this text into a slot, place by place; the slot 5 is overwritten. Tells how many calls that took. */
+    static int set(Branchmatch x, int slot, String text) {
         x.name(slot, 0);
+        int calls = 2;
         int place = 0;
         for (char sign : text.toCharArray()) {
             int name = "abcdefgh".indexOf(sign);
             int head = "KLMNPQST".indexOf(sign);
             if (name >= 0 || head >= 0) {
                 x.name(5, Math.max(name, 0));
+                calls += 2;
                 if (head >= 0) {
                     x.head(5, head, 5, 5, 5);
+                    calls++;
                 }
                 x.graft(slot, place, 5);
                 place++;
@@ -59,48 +52,25 @@ final class Check {
         if (!x.text(slot).equals(text)) {
             throw new IllegalStateException("not set: " + text + " but " + x.text(slot));
         }
+        return calls;
     }
 
-    /** An object with these terms in the slots from 0 on. */
-    static Branchmatch with(String... texts) {
-        Branchmatch x = new Branchmatch();
-        for (int k = 0; k < texts.length; k++) {
-            set(x, k, texts[k]);
-        }
-        return x;
-    }
-
-    /** Lets an answer tell terms: "b=K" and the like; the slots 4 and 5 are overwritten. */
-    static void tell(Branchmatch x, int answer, String... what) {
-        for (String one : what) {
-            set(x, 4, one.substring(2));
-            x.tell(answer, one.charAt(0) - 'a', 4);
-        }
+    /** Lets an answer tell a term: "b=K" and the like; the slots 4 and 5 are overwritten. */
+    static int tell(Branchmatch x, int answer, String what) {
+        int calls = set(x, 4, what.substring(2));
+        x.tell(answer, what.charAt(0) - 'a', 4);
+        return calls + 1;
     }
 
     /** What an answer tells of the names that it moves. */
     static String all(Branchmatch x, int answer) {
         StringBuilder all = new StringBuilder();
+        int moved = x.moved(answer);
         for (int n = 0; n < 8; n++) {
-            if ((x.moved(answer) >> n & 1) == 1) {
+            if ((moved >> n & 1) == 1) {
                 all.append((char) ('a' + n)).append('=').append(x.told(answer, n)).append(' ');
             }
         }
         return all.toString().trim();
-    }
-
-    /** All that an object tells of itself. */
-    static String state(Branchmatch x) {
-        StringBuilder all = new StringBuilder();
-        for (int k = 0; k < 6; k++) {
-            all.append(x.text(k)).append(' ');
-        }
-        for (int k = 0; k < 3; k++) {
-            all.append('[').append(all(x, k)).append(']');
-        }
-        for (int k = 0; k < 3; k++) {
-            all.append(' ').append(x.house(k));
-        }
-        return all.toString();
     }
 }
