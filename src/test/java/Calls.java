@@ -9,6 +9,15 @@ final class Calls {
 
     private Calls() { }
 
+    /** What it answers, or the class of what it throws. */
+    static Object answer(Branchmatch x, String call, int[] v) {
+        try {
+            return call(x, call, v);
+        } catch (RuntimeException e) {
+            return e.getClass();
+        }
+    }
+
     static Object call(Branchmatch x, String call, int[] v) {
         switch (call) {
             case "name": return (long) x.name(v[0], v[1]);

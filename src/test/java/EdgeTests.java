@@ -86,14 +86,6 @@ public final class EdgeTests {
         return isWord ? Check.WORD : null;
     }
 
-    private static Object answered(Branchmatch x, String call, int[] v) {
-        try {
-            return Calls.call(x, call, v);
-        } catch (RuntimeException e) {
-            return e.getClass();
-        }
-    }
-
     private static Object due(Model model, String call, int[] v) {
         Object answer = model.act(call, v);
         return answer instanceof Integer ? (Object) ((Integer) answer).longValue() : answer;
@@ -141,13 +133,13 @@ public final class EdgeTests {
         for (String line : STATES[state]) {
             String[] word = line.split(" ");
             // A call that throws is among them; the model is spared that.
-            if (!(answered(x, word[0], numbers(word)) instanceof Class)) {
+            if (!(Calls.answer(x, word[0], numbers(word)) instanceof Class)) {
                 due(model, word[0], numbers(word));
             }
         }
         String what = "state " + state + ": " + call + Arrays.toString(v);
         Class<?> thrown = thrown(kinds, v);
-        CHECK.due(what, thrown != null ? thrown : due(model, call, v), answered(x, call, v));
+        CHECK.due(what, thrown != null ? thrown : due(model, call, v), Calls.answer(x, call, v));
         CHECK.due(what + " leaves", held(model), held(x));
     }
 

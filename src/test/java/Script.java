@@ -99,13 +99,8 @@ final class Script {
         String before = isIdle ? held() : "";
         int done = isAct ? house(0) : 0;
         int refused = isAct ? house(1) : 0;
-        Object got;
-        try {
-            calls++;
-            got = Calls.call(x, call, v);
-        } catch (RuntimeException e) {
-            got = e.getClass();
-        }
+        calls++;
+        Object got = Calls.answer(x, call, v);
         check.due(what, due, got);
         if (isAct) {
             check.due(what + ", acts done", done + (isRefused ? 0 : 1), house(0));
