@@ -299,6 +299,10 @@ public final class BoundaryTests {
                 "common 0 1 2 = 5", "text 2 = S(a,M(b),a)", "common 1 0 2 = 5", "text 2 = S(a,M(b),a)",
                 "set 0 Q(P(M(K),b),P(M(K),c))", "set 1 Q(P(a,M(M(b))),P(a,c))", "common 0 1 2 = 7",
                 "text 2 = Q(P(a,b),P(a,c))", "common 1 0 2 = 7", "text 2 = Q(P(a,b),P(a,c))");
+        run("12 like pairs behind PARTS with unlike SIZES", "set 0 S(M(K),b,b)", "set 1 S(a,c,c)", "common 0 1 2 = 4",
+                "text 2 = S(a,b,b)", "common 1 0 2 = 4", "text 2 = S(a,b,b)", "set 0 S(P(a,b),P(K,c),P(K,c))",
+                "set 1 S(L,P(d,M(d)),P(d,M(d)))", "common 0 1 2 = 8", "text 2 = S(a,P(b,c),P(b,c))", "common 1 0 2 = 8",
+                "text 2 = S(a,P(b,c),P(b,c))");
         run("12 the first beyond each SLOT", "common 6 0 0 ! slot", "common -1 0 0 ! slot", "common 0 6 0 ! slot",
                 "common 0 -1 0 ! slot", "common 0 0 6 ! slot", "common 0 0 -1 ! slot", "common 6 6 6 ! slot");
         run("12 exceptions go ahead of REFUSED", "set 0 " + nine, "set 1 S(S(S(S(b,c,d),e,f),g,h),a,L)",
@@ -614,6 +618,11 @@ public final class BoundaryTests {
                 "set 1 S(S(S(S(g,f,e),d,c),b,a),K,L)", "steps 0 1 = 13", "why 0 1 = 1",
                 "set 1 S(S(S(S(g,f,e),d,c),b,a),M(K),M(a))", "steps 0 1 = 14", "why 0 1 = 1",
                 "set 1 S(S(S(S(g,f,e),d,c),b,a),M(M(K)),M(K))", "why 0 1 = 1");
+        run("32 WITHIN, beside NAMES that stand for something else", "set 0 P(a,b)", "set 1 P(M(K),P(a,b))",
+                "steps 0 1 = 3", "why 0 1 = 2", "why 1 0 = 2", "can 0 1 1 = false", "set 1 P(M(K),P(b,a))", "why 0 1 = 2",
+                "set 0 P(b,a)", "why 0 1 = 2", "set 1 P(M(K),P(b,a))", "why 0 1 = 2", "set 1 P(M(K),P(b,b))", "why 0 1 = 0",
+                "set 0 S(a,b,c)", "set 1 S(M(d),M(e),S(a,c,b))", "steps 0 1 = 4", "why 0 1 = 2",
+                "set 1 S(M(d),M(e),S(a,d,b))", "steps 0 1 = 4", "why 0 1 = 0", "can 0 1 1 = true");
         run("32 the same NAME by what both stand for is not WITHIN", "set 0 S(a,b,a)", "set 1 S(b,c,c)", "steps 0 1 = 4",
                 "why 0 1 = 0");
         run("32 of SIZES far above 16", "set 0 S(a,b,S(c,d,e))", "set 1 S(P(b,b),P(c,c),S(P(d,d),P(e,e),f))",

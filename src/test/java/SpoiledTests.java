@@ -105,6 +105,8 @@ public final class SpoiledTests {
         x = spoiled(what, "addUsed(both, place, end, told[n]);", "told[n].addRow(both, place, end);");
         sound(what, x, true);
         sound(what, x, false, "head 4 2 2 0 0", "head 5 4 1 4 0", "head 0 4 0 1 0", "copy 5 1");
+        // P(a,b) and P(P(b,b),M(c)): both ways tell P(b,b) of a, and M(c) of b, which makes them not alike.
+        sound(what, x, false, "head 4 4 1 1 0", "head 5 2 2 0 0", "head 0 4 0 1 0", "head 1 4 4 5 0");
         // As alike() would be REFUSED then, it does not matter what it would tell.
         what = "the ANSWER tells what NAMES stand for as it is, with a SIZE above 16";
         x = spoiled(what, "addUsed(both, place, end, told[n]);",
@@ -159,12 +161,27 @@ public final class SpoiledTests {
         }
     }
 
+    /** The last number of digest() is 0 then. */
+    private static void digests() throws Exception {
+        Class<?> right = spoiled("as it is");
+        Class<?> wrong = spoiled("isSound() is never so", "return canBySteps == canByClasses", "return knocks < 0");
+        for (int head = 0; head < 8; head++) {
+            Object one = right.getConstructor().newInstance();
+            Object other = wrong.getConstructor().newInstance();
+            call(one, "head 0 " + head + " 0 1 2");
+            call(other, "head 0 " + head + " 0 1 2");
+            long digest = (Long) one.getClass().getMethod("digest").invoke(one);
+            CHECK.due("digest() without isSound()", digest - 1, other.getClass().getMethod("digest").invoke(other));
+        }
+    }
+
     public static void main(String[] args) throws Exception {
         source = Files.readString(Path.of("src/main/java/Branchmatch.java"));
         sound("as it is", spoiled("as it is"), true);
         madeAlike();
         answers();
         terms();
+        digests();
         CHECK.end("SpoiledTests");
     }
 }
